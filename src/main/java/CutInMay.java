@@ -1423,11 +1423,17 @@ public final class CutInMay {
         }
 
         int meltedFrom(int onDay, int byHeat, int inStraw, int before) {
+            if (before >= MOLTEN) {
+                return MOLTEN;
+            }
             laws.tellDay(onDay, byHeat, inStraw, before);
             return Math.min(MOLTEN, before + laws.melts(text));
         }
 
         int strawFrom(int onDay, int byHeat, int before, int havingMelted) {
+            if (before <= 0) {
+                return 0;
+            }
             laws.tellDay(onDay, byHeat, before, havingMelted);
             return Math.max(0, before - laws.rots(text));
         }

@@ -295,5 +295,13 @@ public final class AskTest {
         x.sell(0);
         x.sell(1);
         Check.due("none any more", x.sellFirst(2), -1);
+        CutInMay y = Check.pond(3, 2, 0b11, 0);
+        Check.say(y, "melts 50-edge*10+heat*3;");
+        y.by(0);
+        Check.due("by its edge", y.sellFirst(3), 1);
+        CutInMay z = Check.pond(4, 2, 0b011, 0);
+        Check.say(z, "melts size*8+heat*3;");
+        z.by(0);
+        Check.due("by its size", z.sellFirst(4), 2);
     }
 }

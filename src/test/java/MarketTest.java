@@ -280,6 +280,16 @@ public final class MarketTest {
         speeds(x, 2, 3, -4, 987);
         x.measure(11, 100);
         speeds(x, 48, 1, -96, 1);
+        x.measure(-1, 0);
+        x.measure(0, 0);
+        x.measure(2, 1);
+        x.measure(5, 3);
+        speeds(x, 2, 3, 1, 2);
+        x.measure(-1, 0);
+        x.measure(0, 0);
+        x.measure(3, 2);
+        x.measure(5, 3);
+        speeds(x, 2, 3, 1, 2);
     }
 
     private static void sellers() {

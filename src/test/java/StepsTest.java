@@ -69,6 +69,13 @@ public final class StepsTest {
         x.by(0);
         x.day(1);
         Check.due("on one that is gone", x.straw(1, 2), 3);
+        CutInMay y = Check.pond(8, 8, 127, 127);
+        Check.due("on the last of 64", y.straw(2, 63), 2);
+        Check.due("a 65th", y.straw(1, 64), -1);
+        y.day(2);
+        Check.due("it melted by 0, then by 3 + 2 - 2", y.block(63, 5), 3);
+        y.sell(63);
+        Check.due("sold", y.block(63, 6), 1);
     }
 
     private static void day() {
