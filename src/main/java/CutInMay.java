@@ -695,7 +695,8 @@ public final class CutInMay {
 
     private int sellOff(int block) {
         Yard yard = now.yard;
-        int pence = sellsNow(block);
+        course.start(block);
+        int pence = course.sellsAt();
         yard.pence += pence;
         yard.heap = Math.min(MOST_HEAP, yard.heap + yard.strawOn(block));
         yard.put(block, 0, yard.meltedOf(block), true);
@@ -962,11 +963,11 @@ public final class CutInMay {
 
         int sightPart(int sight, int what) {
             int at = sight * SIGHT_ROW + what;
-            return within(sight, 0, SIGHTS - 1) && within(at, 0, sights.length - 1) ? sights[at] : 0;
+            return at >= 0 && at < sights.length ? sights[at] : 0;
         }
 
         Text textAt(int number) {
-            return within(number, 0, textCount - 1) && number < texts.length ? texts[number] : null;
+            return number >= 0 && number < textCount && number < texts.length ? texts[number] : null;
         }
 
         Text ruler() {
@@ -989,7 +990,7 @@ public final class CutInMay {
         private final int[] marks = new int[BLOCKS];
 
         private int markOf(int block) {
-            return within(block, 0, marks.length - 1) ? marks[block] : 0;
+            return block >= 0 && block < marks.length ? marks[block] : 0;
         }
 
         int strawOn(int block) {
@@ -1009,7 +1010,7 @@ public final class CutInMay {
         }
 
         void put(int block, int straw, int melted, boolean sold) {
-            if (within(block, 0, marks.length - 1)) {
+            if (block >= 0 && block < marks.length) {
                 marks[block] = straw | melted << 4 | bit(sold) << 11;
             }
         }
@@ -1136,7 +1137,7 @@ public final class CutInMay {
 
         int part(int row, int what) {
             int at = row * ROW_LENGTH + what;
-            return within(at, 0, rows.length - 1) ? rows[at] : 0;
+            return at >= 0 && at < rows.length ? rows[at] : 0;
         }
 
         void become(Told other) {
@@ -1165,7 +1166,7 @@ public final class CutInMay {
 
         int part(int clause, int what) {
             int at = clause * ROW_LENGTH + what;
-            return within(at, 0, rows.length - 1) ? rows[at] : NONE;
+            return at >= 0 && at < rows.length ? rows[at] : NONE;
         }
     }
 
@@ -1206,41 +1207,44 @@ public final class CutInMay {
             }
         }
 
-        private boolean isLaid(int block) {
-            return within(block, 0, count - 1) && block < BLOCKS;
+        private static int partOf(int[] parts, int block) {
+            return block >= 0 && block < parts.length ? parts[block] : 0;
         }
 
         int leftOf(int block) {
-            return isLaid(block) ? lefts[block] : 0;
+            return partOf(lefts, block);
         }
 
         int topOf(int block) {
-            return isLaid(block) ? tops[block] : 0;
+            return partOf(tops, block);
         }
 
         int wideOf(int block) {
-            return isLaid(block) ? wides[block] : 0;
+            return partOf(wides, block);
         }
 
         int highOf(int block) {
-            return isLaid(block) ? highs[block] : 0;
+            return partOf(highs, block);
         }
 
         int edgeOf(int block) {
-            return isLaid(block) ? edges[block] : 0;
+            return partOf(edges, block);
         }
 
         int sizeOf(int block) {
-            return isLaid(block) ? wides[block] * highs[block] : 0;
+            return partOf(wides, block) * partOf(highs, block);
         }
 
         int cellsOf(World world, int sight, int block) {
+            if (block < 0 || block >= BLOCKS) {
+                return 0;
+            }
             int left = world.sightPart(sight, COLUMN);
             int top = world.sightPart(sight, ROW);
-            int wide = Math.min(left + world.sightPart(sight, WIDE), leftOf(block) + wideOf(block))
-                    - Math.max(left, leftOf(block));
-            int high = Math.min(top + world.sightPart(sight, HIGH), topOf(block) + highOf(block))
-                    - Math.max(top, topOf(block));
+            int right = Math.min(left + world.sightPart(sight, WIDE), lefts[block] + wides[block]);
+            int bottom = Math.min(top + world.sightPart(sight, HIGH), tops[block] + highs[block]);
+            int wide = right - Math.max(left, lefts[block]);
+            int high = bottom - Math.max(top, tops[block]);
             return wide > 0 && high > 0 ? wide * high : 0;
         }
 
@@ -1767,12 +1771,20 @@ public final class CutInMay {
             return place >= 0 && place < length && place < TAPE_LENGTH ? tape[place] & 255 : 0;
         }
 
-        private static boolean isLetter(int sign) {
-            return sign >= 'a' && sign <= 'z' || sign >= 'A' && sign <= 'Z';
+        private static int sortOf(int sign) {
+            if (sign >= 'a' && sign <= 'z' || sign >= 'A' && sign <= 'Z') {
+                return A_WORD;
+            }
+            return sign >= '0' && sign <= '9' ? A_NUMBER : A_SIGN;
         }
 
-        private static boolean isDigit(int sign) {
-            return sign >= '0' && sign <= '9';
+        private static int wordOf(long letters) {
+            for (int word = 0; word < WORDS.length; word++) {
+                if (WORDS[word] == letters) {
+                    return word;
+                }
+            }
+            return NONE;
         }
 
         private void step() {
@@ -1780,40 +1792,19 @@ public final class CutInMay {
                 at++;
             }
             start = at;
-            int sign = byteAt(at);
-            if (at >= length) {
-                sort = AT_END;
-            } else if (isLetter(sign)) {
-                readWord();
-            } else if (isDigit(sign)) {
-                readNumber();
-            } else {
-                // A sign of two bytes can stand nowhere, so its first byte tells as much.
-                sort = A_SIGN;
-                value = sign;
-                at++;
-            }
-        }
-
-        private void readWord() {
+            sort = at < length ? sortOf(byteAt(at)) : AT_END;
             long letters = 0;
-            while (at < length && isLetter(byteAt(at))) {
+            int number = 0;
+            // A sign of two bytes can stand nowhere, so its first byte alone tells as much.
+            while (at < length && sortOf(byteAt(at)) == sort && (sort != A_SIGN || at == start)) {
                 letters = letters << 8 | byteAt(at);
+                number = Math.min(MOST_NUMBER + 1, number * 10 + byteAt(at) - '0');
                 at++;
             }
-            sort = A_WORD;
-            value = NONE;
-            for (int word = 0; word < WORDS.length && value == NONE; word++) {
-                value = WORDS[word] == letters ? word : NONE;
-            }
-        }
-
-        private void readNumber() {
-            sort = A_NUMBER;
-            value = 0;
-            while (at < length && isDigit(byteAt(at))) {
-                value = Math.min(MOST_NUMBER + 1, value * 10 + byteAt(at) - '0');
-                at++;
+            if (sort == A_WORD) {
+                value = wordOf(letters);
+            } else {
+                value = sort == A_NUMBER ? number : (int) letters;
             }
         }
 
@@ -1958,34 +1949,37 @@ public final class CutInMay {
         private boolean readOne(int depth) {
             boolean opens = isSign('(') || isSign('-') || isWord(NTH_WORD);
             boolean named = sort == A_WORD && within(value, FIRST_NAME_WORD, KINDS_WORD);
-            if (!opens && !named && sort != A_NUMBER) {
-                return wrong(CANT_STAND);
+            int faultHere = faultOfOne(opens, named, depth);
+            if (faultHere != 0) {
+                return wrong(faultHere);
             }
-            if (sort == A_NUMBER && value > MOST_NUMBER) {
-                return wrong(WRONG_NUMBER);
-            }
-            if (opens && depth >= MOST_OPEN) {
-                return wrong(TOO_DEEP);
-            }
-            if (named && value >= SIGHTS_WORD && law != SELLS) {
-                return wrong(WRONG_NAME);
-            }
-            if (seventh) {
-                return wrong(TOO_MANY_SUMS);
-            }
-            int sign = value;
             boolean chooses = isWord(NTH_WORD);
-            if (!opens) {
-                make(named ? Laws.NAME : Laws.PUSH, named ? value - FIRST_NAME_WORD : value);
-            }
+            int sign = value;
             step();
             if (!opens) {
-                return true;
+                return named ? make(Laws.NAME, sign - FIRST_NAME_WORD) : make(Laws.PUSH, sign);
             }
             if (chooses) {
                 return readChoice(depth + 1);
             }
             return sign == '-' ? readOne(depth + 1) && make(Laws.NEGATE, 0) : readSum(depth + 1) && takeSign(')');
+        }
+
+        /** The least fault of the token that a ONE begins with; 0 without. */
+        private int faultOfOne(boolean opens, boolean named, int depth) {
+            if (!opens && !named && sort != A_NUMBER) {
+                return CANT_STAND;
+            }
+            if (sort == A_NUMBER && value > MOST_NUMBER) {
+                return WRONG_NUMBER;
+            }
+            if (opens && depth >= MOST_OPEN) {
+                return TOO_DEEP;
+            }
+            if (named && value >= SIGHTS_WORD && law != SELLS) {
+                return WRONG_NAME;
+            }
+            return seventh ? TOO_MANY_SUMS : 0;
         }
 
         private boolean readChoice(int depth) {

@@ -98,6 +98,12 @@ public final class MarketTest {
         int[] few = {3, 2, 3, 2, 0};
         for (int i = 0; i < 5; i++) x.order(few[i], 0, i == 4 ? 1 : 10);
         served(x, 31, 0, 5, 4, -1, 1);
+        CutInMay y = Check.pond(7, 2, 63, 0);
+        for (int column = 0; column < 7; column++) y.sight(4, column, 1, 1, 1, 0);
+        for (int i = 0; i < 5; i++) y.order(4, 0, 50 - i);
+        served(y, 240, 0, 1, 2, 3, 4);
+        y.sell(2);
+        served(y, 240, 0, 1, 3, 4, 5);
     }
 
     private static void layer() {

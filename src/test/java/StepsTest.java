@@ -178,6 +178,11 @@ public final class StepsTest {
         stopped("sell 1;", 0);
         stopped("day 60;sell 0;", 1);
         stopped("", -1);
+        stopped("day 1;".repeat(23) + "sight 9 at 0,0:1,1 deep 9;", -1);
+        CutInMay last = new CutInMay();
+        Check.say(last, "day 1;".repeat(23) + "sight 8 at 0,0:1,1 deep 7;");
+        last.played(0);
+        Check.due("the 24th clause", last.ofSight(0, 0) * 10 + last.ofSight(0, 5), 87);
         toTheEnd();
     }
 
