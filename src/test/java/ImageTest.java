@@ -79,23 +79,37 @@ public final class ImageTest {
         change(x);
         Check.due("the day", x.back(), 2);
         alike("back", seen(x), then);
-        change(x);
-        Check.due("it stays", x.back(), 2);
-        alike("back again", seen(x), then);
-        CutInMay y = full();
-        for (int i = 0; i < 6; i++) {
-            Check.due("steps are in it", x.undo(), y.undo());
-            alike("undo " + i, seen(x), seen(y));
-        }
-        Check.due("none any more", x.undo(), -1);
-        Check.put(x, "saw 0");
-        Check.due("back from steps taken back", x.back(), 2);
-        alike("back", seen(x), then);
-        Check.due("no tape is in it", x.about(9), 5);
+        undone();
+        CutInMay z = full();
+        z.image();
+        change(z);
+        z.back();
+        change(z);
+        Check.due("it stays", z.back(), 2);
+        alike("back again", seen(z), then);
+        for (int i = 0; i < 6; i++) z.undo();
+        Check.due("none any more", z.undo(), -1);
+        Check.put(z, "saw 0");
+        Check.due("back from steps taken back", z.back(), 2);
+        alike("back", seen(z), then);
+        Check.due("no tape is in it", z.about(9), 5);
         x.day(3);
         Check.due("another image", x.image(), 5);
         x.day(3);
         Check.due("back to that", x.back(), 5);
+    }
+
+    /** The steps of an image are taken back as if there had been none; each look is at new ones, as an object is good for 512 calls. */
+    private static void undone() {
+        for (int steps = 1; steps <= 6; steps++) {
+            CutInMay x = full();
+            x.image();
+            change(x);
+            x.back();
+            CutInMay y = full();
+            for (int i = 0; i < steps; i++) Check.due("steps are in it", x.undo(), y.undo());
+            alike("undo " + steps, seen(x), seen(y));
+        }
     }
 
     private static void again() {

@@ -1,3 +1,5 @@
+import java.util.function.LongSupplier;
+
 /** Counts and prints the answers that aren't the ones that are due. */
 final class Check {
     private static int wrong = 0;
@@ -11,6 +13,11 @@ final class Check {
         about = words;
     }
 
+    /** Which words of which part of the document the next answers are about; DocTest sees that they stand there. */
+    static void says(String part, String words) {
+        about = part + ": '" + words + "'";
+    }
+
     static void due(String call, long got, long want) {
         asked++;
         if (got != want) {
@@ -21,6 +28,40 @@ final class Check {
 
     static void due(String call, boolean got, boolean want) {
         due(call, got ? 1 : 0, want ? 1 : 0);
+    }
+
+    /** A call that is refused: what it answers, and that all is then as it was. */
+    static void refused(CutInMay x, String call, LongSupplier made, long want) {
+        still(x, () -> due(call, made.getAsLong(), want));
+    }
+
+    /** Calls by which nothing changes. */
+    static void still(CutInMay x, Runnable calls) {
+        String before = sketch(x);
+        calls.run();
+        String behind = sketch(x);
+        due("nothing changes: " + before + " then " + behind, before.equals(behind), true);
+    }
+
+    /** What a few calls tell of all that there is; few, as an object is good for 512. */
+    static String sketch(CutInMay x) {
+        StringBuilder told = new StringBuilder();
+        for (int what = 0; what < 10; what++) told.append(x.is(what)).append(' ').append(x.about(what)).append(' ');
+        told.append(x.fault(0)).append(' ').append(x.fault(1)).append(' ').append(x.litter()).append(' ');
+        return told.append(x.gone()).append(' ').append(x.ice(true)).append(' ').append(x.foretold(1, -1)).toString();
+    }
+
+    /** Has the text read, and has it rule. */
+    static void rule(CutInMay x, String text) {
+        int number = say(x, text);
+        due("a text that can rule: " + text, number >= 0 && x.by(number), true);
+    }
+
+    /** Nothing melts until so many days are past; then no text rules. */
+    static void pass(CutInMay x, int days) {
+        rule(x, "melts 0;");
+        for (int left = days; left > 0; left -= 60) x.day(Math.min(60, left));
+        x.by(-1);
     }
 
     /** Brings the text behind an empty tape and has it read: what text() answers. */
