@@ -308,6 +308,10 @@ public final class EdgesOfAskTest {
         y.day(1);
         Check.due("two", y.gone(), 2);
         Check.due("they aren't sold", y.ice(false), 4);
+        CutInMay all = Check.pond(8, 8, 127, 127);
+        Check.rule(all, "melts 100;");
+        all.day(1);
+        Check.due("all 64", all.gone(), 64);
         Check.says("III", "LITTER: all STRAW on BLOCKS together.");
         Check.says("28", "LITTER.");
         CutInMay z = Check.pond(3, 2, 0b11, 0);
@@ -362,6 +366,18 @@ public final class EdgesOfAskTest {
         odds(z, 0, 2, 1, 1);
         odds(z, 0, 3, 1, 2);
         odds(z, 0, 4, 1, 4);
+        CutInMay deep = new CutInMay();
+        deep.straw(9, 0);
+        Check.rule(deep, "melts 50-straw*5;");
+        odds(deep, 0, 4, 1, 1);
+        CutInMay wide = new CutInMay();
+        Check.rule(wide, "melts nth (day+1) of (0,heat,heat*10,1);");
+        // Behind three days it has melted to 0 .. 99, each alike likely; the fourth takes 1 more.
+        odds(wide, 0, 3, 1, 1);
+        odds(wide, 0, 4, 99, 100);
+        Check.rule(wide, "melts day*100;");
+        odds(wide, 0, 1, 1, 1);
+        odds(wide, 0, 2, 0, 1);
         CutInMay late = new CutInMay();
         Check.pass(late, 999);
         late.straw(1, 0);
@@ -420,6 +436,9 @@ public final class EdgesOfAskTest {
         Check.due("by law", y.sellFirst(4), 0);
         Check.rule(y, "melts nth (edge-1) of (50,0);");
         Check.due("the one in the midst", y.sellFirst(2), 1);
+        CutInMay z = Check.pond(5, 2, 0b0101, 0);
+        Check.rule(z, "melts nth size of (0,0,0,50);");
+        Check.due("of like edges the larger", z.sellFirst(2), 1);
         Check.says("30", "NONE: none, and for others.");
         int[] others = {-1, 5, Integer.MIN_VALUE, Integer.MAX_VALUE};
         for (int n : others) Check.due("sellFirst " + n, y.sellFirst(n), -1);

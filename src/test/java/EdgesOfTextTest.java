@@ -75,7 +75,9 @@ public final class EdgesOfTextTest {
         Check.says("II", "letters a .. z, A .. Z one behind the other (one TOKEN)");
         right("day1;");
         wrong(1, "|sawsaw 1;");
-        wrong(1, "|sawZ1;");
+        String[] ends = {"a", "z", "A", "Z"};
+        for (String end : ends) wrong(1, "|saw" + end + "1;");
+        for (String end : ends) wrong(1, "|" + end + "saw1;");
         wrong(1, "|s aw 1;");
         wrong(1, "|SAW 1;");
         wrong(1, "|Saw 1;");
@@ -216,6 +218,10 @@ public final class EdgesOfTextTest {
             wrong(5, "rots |" + names[i] + ";");
         }
         sum("sights+kinds", 0);
+        CutInMay one = new CutInMay();
+        one.sight(3, 0, 0, 1, 1, 0);
+        Check.rule(one, "sells sights*10+kinds;");
+        Check.due("one of one", one.block(0, 10), 11);
         CutInMay many = new CutInMay();
         for (int i = 0; i < 12; i++) many.sight(i % 10, 0, 0, 1, 1, 0);
         Check.rule(many, "sells sights*100+kinds;");

@@ -122,6 +122,10 @@ public final class EdgesOfTradeTest {
         kiss(x, 2, 0, 0, 1);
         x.sell(3);
         kiss(x, 2, 3, 1, 1);
+        CutInMay y = Check.pond(4, 4, 0b111, 0b111);
+        y.sight(0, 0, 0, 1, 1, 0);
+        kiss(y, 0, 0, 1, 1);
+        for (int block = 1; block < 16; block++) kiss(y, 0, block, 0, 1);
         Check.says("38", "NONE for others.");
         int[][] wrong = {{3, 0}, {-1, 0}, {0, 4}, {0, -1}};
         for (int[] w : wrong) kiss(x, w[0], w[1], -1, -1);
@@ -222,6 +226,18 @@ public final class EdgesOfTradeTest {
         speeds(x, 4, 1, 3, 2);
         x.measure(19, 100);
         speeds(x, 84, 5, -60, 1);
+        x.measure(-1, 0);
+        x.measure(1, 50);
+        x.measure(5, 10);
+        x.measure(5, 90);
+        speeds(x, 10, 1, -10, 1);
+        int[][] near = {{0, 0, 2, 1, 5, 3}, {0, 0, 3, 2, 5, 3}};
+        for (int[] n : near) {
+            // 1 in 2 and 2 in 3, whichever comes first.
+            x.measure(-1, 0);
+            for (int i = 0; i < 6; i += 2) x.measure(n[i], n[i + 1]);
+            speeds(x, 2, 3, 1, 2);
+        }
         Check.says("41", "SPEED: the greatest (0 upper, 1 lower), the least (2 upper, 3 lower).");
         x.measure(-1, 0);
         x.measure(0, 100);
@@ -281,6 +297,10 @@ public final class EdgesOfTradeTest {
         for (int far : FAR) Check.due("what " + far, y.sellers(far), NO_NUMBER);
         y.sell(0);
         sellers(y, 5, 0);
+        CutInMay left = row(4, 9);
+        sellers(left, 5, 1);
+        left.sell(1);
+        sellers(left, 4, 0);
         y.sell(1);
         sellers(y, NO_NUMBER, NO_NUMBER);
         CutInMay z = new CutInMay();
