@@ -436,8 +436,8 @@ public final class EdgesOfAskTest {
         Check.due("by law", y.sellFirst(4), 0);
         Check.rule(y, "melts nth (edge-1) of (50,0);");
         Check.due("the one in the midst", y.sellFirst(2), 1);
-        CutInMay z = Check.pond(5, 2, 0b0101, 0);
-        Check.rule(z, "melts nth size of (0,0,0,50);");
+        CutInMay z = Check.pond(4, 2, 0b001, 0);
+        Check.rule(z, "melts nth size of (0,0,50);");
         Check.due("of like edges the larger", z.sellFirst(2), 1);
         Check.says("30", "NONE: none, and for others.");
         int[] others = {-1, 5, Integer.MIN_VALUE, Integer.MAX_VALUE};

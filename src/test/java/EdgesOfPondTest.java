@@ -215,6 +215,10 @@ public final class EdgesOfPondTest {
         Check.rule(x, "melts 0;");
         x.day(60);
         Check.due("days by which nothing melts", x.saw(2, true), 8);
+        CutInMay y = Check.pond(4, 4, 0b010, 0);
+        Check.rule(y, "melts 1-size;");
+        y.day(60);
+        Check.due("there is no block of no cells that melts", y.saw(0, true), 3);
         Check.says("I", "and none is SOLD");
         x.sell(7);
         Check.refused(x, "one is sold", () -> x.saw(0, false), -1);
