@@ -288,16 +288,16 @@ public final class EdgesOfAskTest {
 
     private static void cells() {
         Check.says("III", "CELLS of all BLOCKS that are SOLD, or that aren't.");
-        Check.says("26", "CELLS.");
         CutInMay x = Check.pond(8, 8, 0b1, 0);
         Check.due("all", x.ice(false) * 100 + x.ice(true), 6400);
         x.sell(0);
         Check.due("some", x.ice(false) * 100 + x.ice(true), 5608);
         x.sell(1);
         Check.due("none", x.ice(false) * 100 + x.ice(true), 64);
+        Check.says("26", "CELLS.");
         Check.due("one cell", new CutInMay().ice(false), 1);
+        Check.due("none of it sold", new CutInMay().ice(true), 0);
         Check.says("III", "GONE: how many BLOCKS have MELTED to 100.");
-        Check.says("27", "GONE.");
         CutInMay y = Check.pond(3, 2, 0b11, 0);
         Check.due("none", y.gone(), 0);
         y.sell(0);
@@ -308,12 +308,12 @@ public final class EdgesOfAskTest {
         y.day(1);
         Check.due("two", y.gone(), 2);
         Check.due("they aren't sold", y.ice(false), 4);
+        Check.says("27", "GONE.");
         CutInMay all = Check.pond(8, 8, 127, 127);
         Check.rule(all, "melts 100;");
         all.day(1);
         Check.due("all 64", all.gone(), 64);
         Check.says("III", "LITTER: all STRAW on BLOCKS together.");
-        Check.says("28", "LITTER.");
         CutInMay z = Check.pond(3, 2, 0b11, 0);
         Check.due("none", z.litter(), 0);
         z.straw(9, 0);
@@ -325,6 +325,13 @@ public final class EdgesOfAskTest {
         Check.rule(z, "melts 100;rots 1;");
         z.day(1);
         Check.due("of those that are gone", z.litter(), 9);
+        Check.says("28", "LITTER.");
+        CutInMay last = Check.pond(8, 8, 127, 127);
+        last.straw(1, 0);
+        last.straw(9, 63);
+        Check.due("of the first and the last of 64", last.litter(), 10);
+        last.undo();
+        Check.due("taken back", last.litter(), 1);
     }
 
     private static void odds(CutInMay x, int block, int n, long upper, long lower) {

@@ -580,6 +580,12 @@ public final class EdgesOfPondTest {
         Check.refused(z, "a pond is no step", () -> z.undo(), -1);
     }
 
+    private static void ofBlocks(CutInMay x, int[][] due, int from, int to) {
+        for (int block = 0; block < due.length; block++) {
+            for (int what = from; what <= to; what++) Check.due("block " + block + ", " + what, x.block(block, what), due[block][what]);
+        }
+    }
+
     private static void blockCall() {
         CutInMay x = Check.pond(4, 3, 0b001, 0b01);
         x.sight(3, 0, 0, 2, 2, 0);
@@ -588,19 +594,17 @@ public final class EdgesOfPondTest {
         x.day(1);
         x.straw(1, 3);
         x.sell(2);
-        Check.says("16", "Of a BLOCK: 0 its left column, 1 its upper row, 2 wide, 3 high");
-        Check.says("16", "4 STRAW, 5 MELTED, 6 SOLD (1, 0), 7 EDGE");
-        Check.says("16", "8 SIGHTS with a cell in it (bits), 9 melts now, 10 sells now.");
         // HEAT is 3 now; block 2 was sold with 2 of 100 melted.
         int[][] due = {
             {0, 0, 1, 1, 0, 2, 0, 2, 1, 5, 9}, {1, 0, 3, 1, 0, 2, 0, 2, 1, 5, 29},
             {0, 1, 1, 2, 0, 2, 1, 2, 1, 5, 19}, {1, 1, 3, 2, 3, 0, 0, 2, 3, 2, 60}
         };
-        for (int block = 0; block < 4; block++) {
-            for (int what = 0; what < 11; what++) {
-                Check.due("block " + block + ", " + what, x.block(block, what), due[block][what]);
-            }
-        }
+        Check.says("16", "Of a BLOCK: 0 its left column, 1 its upper row, 2 wide, 3 high");
+        ofBlocks(x, due, 0, 3);
+        Check.says("16", "4 STRAW, 5 MELTED, 6 SOLD (1, 0), 7 EDGE");
+        ofBlocks(x, due, 4, 7);
+        Check.says("16", "8 SIGHTS with a cell in it (bits), 9 melts now, 10 sells now.");
+        ofBlocks(x, due, 8, 10);
         Check.says("16", "NONE for others.");
         for (int far : FAR) {
             Check.due("block " + far, x.block(far, 0), -1);
@@ -610,6 +614,12 @@ public final class EdgesOfPondTest {
         Check.due("block 4 of four", x.block(4, 4), -1);
         Check.due("what 11", x.block(0, 11), -1);
         Check.due("what -1", x.block(0, -1), -1);
+    }
+
+    private static void ofSights(CutInMay x, int[][] due, int from, int to) {
+        for (int sight = 0; sight < due.length; sight++) {
+            for (int what = from; what <= to; what++) Check.due("sight " + sight + ", " + what, x.ofSight(sight, what), due[sight][what]);
+        }
     }
 
     private static void cellAndSight() {
@@ -623,17 +633,14 @@ public final class EdgesOfPondTest {
         int[][] wrong = {{3, 0}, {0, 2}, {-1, 0}, {0, -1}, {3, 2}};
         for (int[] w : wrong) Check.due("others", x.blockOf(w[0], w[1]), -1);
         for (int far : FAR) Check.due("far", Math.max(x.blockOf(far, 0), x.blockOf(0, far)), -1);
-        Check.says("18", "Of a SIGHT: 0 KIND, 1 column, 2 row, 3 wide, 4 high, 5 LAYER");
-        Check.says("18", "6 whether it is WHOLE (1, 0), 7 whether it SHOWS (1, 0).");
         CutInMay y = Check.pond(4, 3, 0b001, 0);
         y.sight(9, 0, 1, 3, 2, 0);
         y.sight(8, 1, 0, 3, 1, 9);
         int[][] due = {{9, 0, 1, 3, 2, 0, 0, 0}, {8, 1, 0, 3, 1, 9, 1, 0}};
-        for (int sight = 0; sight < 2; sight++) {
-            for (int what = 0; what < 8; what++) {
-                Check.due("sight " + sight + ", " + what, y.ofSight(sight, what), due[sight][what]);
-            }
-        }
+        Check.says("18", "Of a SIGHT: 0 KIND, 1 column, 2 row, 3 wide, 4 high, 5 LAYER");
+        ofSights(y, due, 0, 5);
+        Check.says("18", "6 whether it is WHOLE (1, 0), 7 whether it SHOWS (1, 0).");
+        ofSights(y, due, 6, 7);
         y.day(1);
         Check.due("the first shows then", y.ofSight(0, 7), 1);
         Check.says("18", "NONE for others.");

@@ -82,7 +82,6 @@ public final class EdgesOfTradeTest {
     private static void lies() {
         Check.says("IV", "LIES: its own BID being what it is worth to the k-th (it gets that less what it pays, or 0 without): "
                 + "what it gets at most by any BID (0 .. 999) in its place, less what it gets by its own.");
-        Check.says("37", "LIES: what the k-th gets at most by any BID, less what it gets by its own.");
         int[][] all = {{0}, {999}, {5, 5}, {999, 999}, {0, 0, 0}, {3, 9, 6}, {999, 0, 998}};
         for (int[] bids : all) {
             CutInMay x = new CutInMay();
@@ -93,6 +92,10 @@ public final class EdgesOfTradeTest {
                 Check.due("the " + k + "-th of " + bids.length, x.lies(k), most - gets(bids, k, bids[k]));
             }
         }
+        Check.says("37", "LIES: what the k-th gets at most by any BID, less what it gets by its own.");
+        CutInMay eight = new CutInMay();
+        for (int bid = 1; bid <= 8; bid++) eight.bid(bid * 111);
+        for (int k = 0; k < 8; k++) Check.due("no lie gets more, the " + k + "-th of 8", eight.lies(k), 0);
         Check.says("37", "-2 for others.");
         CutInMay y = new CutInMay();
         Check.due("0 of none", y.lies(0), -2);
@@ -539,7 +542,7 @@ public final class EdgesOfTradeTest {
     }
 
     private static void image() {
-        Check.says("V", "AN IMAGE: all as it is, but the tape and the latest FAULT.");
+        Check.says("46", "THE IMAGE is as all is now: DAY.");
         CutInMay x = Check.pond(4, 3, 0b010, 0b01);
         Check.rule(x, "melts 2;sells straw;");
         x.sight(1, 0, 0, 2, 1, 1);
@@ -553,22 +556,24 @@ public final class EdgesOfTradeTest {
         x.measure(2, 9);
         x.melt(0, 1, 2, 2);
         String before = Check.sketch(x) + seen(x);
-        Check.says("46", "THE IMAGE is as all is now: DAY.");
         Check.due("DAY", x.image(), 4);
         Check.due("it changes nothing", before.equals(Check.sketch(x) + seen(x)), true);
         change(x);
         Check.says("V", "BACK: all is so again.");
-        Check.says("47", "BACK to THE IMAGE (it stays): DAY.");
-        Check.due("DAY", x.back(), 4);
+        x.back();
         same(x, before);
         change(x);
-        Check.due("it stays", x.back(), 4);
+        Check.says("47", "BACK to THE IMAGE (it stays): DAY.");
+        Check.due("DAY", x.back(), 4);
         same(x, before);
         Check.due("glass, bid, measure, melt", x.layers(1, 2) * 100 + x.auction(0) * 10 + x.speed(0), 107);
         Check.due("by whose law", x.whoseLaw(), 1);
         Check.due("the steps of the image", x.undo(), 7);
         Check.due("its last was a sale", x.block(1, 6), 0);
+        Check.due("it stays", x.back(), 4);
+        Check.due("the sale is in it", x.block(1, 6), 1);
         tapeAndFault();
+        texts();
     }
 
     private static void same(CutInMay x, String before) {
@@ -593,18 +598,26 @@ public final class EdgesOfTradeTest {
     }
 
     private static void tapeAndFault() {
-        Check.says("46", "THE IMAGE is as all is now: DAY.");
+        Check.says("V", "AN IMAGE: all as it is, but the tape and the latest FAULT.");
         CutInMay x = new CutInMay();
         Check.say(x, "  foo");
         Check.put(x, "saw 1;");
-        Check.due("DAY", x.image(), 0);
+        x.image();
         Check.due("the tape stays with the image made", x.about(9), 6);
         Check.say(x, "saw 9;");
         Check.put(x, "day");
-        Check.says("47", "BACK to THE IMAGE (it stays): DAY.");
-        Check.due("DAY", x.back(), 0);
+        x.back();
         Check.due("the tape is as it was ahead of back", x.about(9), 3);
         Check.due("and so is the latest fault", x.fault(0) * 100 + x.fault(1), 204);
+        CutInMay z = new CutInMay();
+        Check.pass(z, 999);
+        Check.due("DAY 999", z.image(), 999);
+        z.undo();
+        Check.due("DAY 999", z.back(), 999);
+        Check.due("30 steps again", z.about(3), 30);
+    }
+
+    private static void texts() {
         CutInMay y = new CutInMay();
         Check.say(y, "melts 1;");
         y.image();
@@ -620,12 +633,6 @@ public final class EdgesOfTradeTest {
         y.image();
         y.day(3);
         Check.due("the latest image alone", y.back() * 10 + y.about(1), 2);
-        CutInMay z = new CutInMay();
-        Check.pass(z, 999);
-        Check.due("DAY 999", z.image(), 999);
-        z.undo();
-        Check.due("DAY 999", z.back(), 999);
-        Check.due("30 steps again", z.about(3), 30);
     }
 
     private static void about() {

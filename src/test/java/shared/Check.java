@@ -5,6 +5,8 @@ final class Check {
     private static int wrong = 0;
     private static int asked = 0;
     private static String about = "";
+    private static boolean quoted = false;
+    private static int askedBefore = 0;
 
     private Check() {
     }
@@ -15,7 +17,19 @@ final class Check {
 
     /** Which words of which part of the document the next answers are about; DocTest sees that they stand there. */
     static void says(String part, String words) {
+        answered();
         about = part + ": '" + words + "'";
+        quoted = true;
+        askedBefore = asked;
+    }
+
+    /** Words that are quoted are no test: some answer must follow them. */
+    private static void answered() {
+        if (quoted && asked == askedBefore) {
+            wrong++;
+            System.out.println(about + ": no answer is looked at");
+        }
+        quoted = false;
     }
 
     static void due(String call, long got, long want) {
@@ -88,6 +102,7 @@ final class Check {
     }
 
     static void finish() {
+        answered();
         System.out.println(wrong == 0 ? asked + " answers are as due" : wrong + " answers are not as due");
         if (wrong != 0) System.exit(1);
     }
