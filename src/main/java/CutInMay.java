@@ -1528,7 +1528,7 @@ public final class CutInMay {
             int left = 0;
             for (int state = 0; state < many && state < states.length; state++) {
                 for (int heat = 0; heat < HEATS; heat++) {
-                    left += behind(state, day, heat) < GONE_STATE ? ways[state] : 0;
+                    left += behind(states[state], day, heat) < GONE_STATE ? ways[state] : 0;
                 }
             }
             return left;
@@ -1538,7 +1538,7 @@ public final class CutInMay {
             int more = 0;
             for (int state = 0; state < many && state < states.length; state++) {
                 for (int heat = 0; heat < HEATS; heat++) {
-                    int to = behind(state, day, heat);
+                    int to = behind(states[state], day, heat);
                     if (to >= 0 && to < GONE_STATE) {
                         if (waysTo[to] == 0 && more < found.length) {
                             found[more] = to;
@@ -1553,16 +1553,19 @@ public final class CutInMay {
         }
 
         private int behind(int state, int day, int heat) {
-            int melted = states[state] / STRAWS;
-            int straw = course.strawFrom(day, heat, states[state] % STRAWS, melted);
+            int melted = state / STRAWS;
+            int straw = course.strawFrom(day, heat, state % STRAWS, melted);
             return course.meltedFrom(day, heat, straw, melted) * STRAWS + straw;
         }
 
         private void gather(int many) {
             for (int state = 0; state < many && state < found.length; state++) {
-                states[state] = found[state];
-                ways[state] = waysTo[found[state]];
-                waysTo[found[state]] = 0;
+                int to = found[state];
+                if (to >= 0 && to < GONE_STATE) {
+                    states[state] = to;
+                    ways[state] = waysTo[to];
+                    waysTo[to] = 0;
+                }
             }
         }
     }

@@ -67,22 +67,22 @@ public final class LikenessTest {
     }
 
     private int block() {
-        return any(0, random.nextInt(20) == 0 ? 63 : (int) real.answer("is", 9) - 1);
+        return any(0, random.nextInt(20) == 0 ? 63 : (int) plain.answer("is", 9) - 1);
     }
 
     private int sight() {
-        return any(0, random.nextInt(20) == 0 ? 11 : Math.max(0, (int) real.answer("about", 0) - 1));
+        return any(0, random.nextInt(20) == 0 ? 11 : Math.max(0, (int) plain.answer("about", 0) - 1));
     }
 
     private int dayNear() {
-        return any(0, random.nextInt(3) == 0 ? 70 : 6) + (int) real.answer("is", 0);
+        return any(0, random.nextInt(3) == 0 ? 70 : 6) + (int) plain.answer("is", 0);
     }
 
     private int[] numbers(String name) {
         switch (name) {
             case "pond": return new int[] {any(2, 8), any(2, 8)};
-            case "sight": return new int[] {any(0, kinds - 1), any(0, (int) real.answer("is", 7) - 1),
-                any(0, (int) real.answer("is", 8) - 1), any(1, widest), any(1, widest), any(0, 9)};
+            case "sight": return new int[] {any(0, kinds - 1), any(0, (int) plain.answer("is", 7) - 1),
+                any(0, (int) plain.answer("is", 8) - 1), any(1, widest), any(1, widest), any(0, 9)};
             case "feed": return new int[] {random.nextInt(), random.nextInt(), random.nextInt(), random.nextInt(), random.nextInt()};
             case "end": return new int[] {any(0, 20)};
             case "by": return new int[] {any(-1, 2)};
@@ -94,7 +94,7 @@ public final class LikenessTest {
             case "block": return new int[] {block(), any(0, 10)};
             case "blockOf": return new int[] {any(0, 7), any(0, 7)};
             case "ofSight": return new int[] {sight(), any(0, 7)};
-            case "sawing": return new int[] {random.nextInt(4) == 0 ? 0 : any(0, (1 << real.answer("about", 0)) - 1),
+            case "sawing": return new int[] {random.nextInt(4) == 0 ? 0 : any(0, (1 << plain.answer("about", 0)) - 1),
                 any(1, random.nextInt(3) == 0 ? 64 : 8), any(0, 2)};
             case "foretold": return new int[] {any(1, random.nextBoolean() ? 60 : 5), random.nextInt(3) == 0 ? -1 : block()};
             case "lasts": return new int[] {block(), any(0, 4), random.nextInt(2)};
@@ -124,7 +124,7 @@ public final class LikenessTest {
     private int[] melting() {
         int block = block();
         if (random.nextInt(3) == 0) return new int[] {block, any(0, 9), any(0, 9), any(0, 100)};
-        return new int[] {block, (int) real.answer("is", 1), (int) real.answer("block", block, 4), (int) real.answer("block", block, 9)};
+        return new int[] {block, (int) plain.answer("is", 1), (int) plain.answer("block", block, 4), (int) plain.answer("block", block, 9)};
     }
 
     private void begin() {

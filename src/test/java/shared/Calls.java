@@ -19,7 +19,6 @@ final class Calls {
         return methods.get(name).getParameterCount();
     }
 
-
     /** What the call answers, a boolean as 1 or 0; what it throws comes out as an error that names the call. */
     long answer(String name, int... numbers) {
         Method method = methods.get(name);
