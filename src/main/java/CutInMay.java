@@ -330,7 +330,7 @@ public final class CutInMay {
             worth[block] = canSell(block) ? sellsNow(block) : NONE;
         }
         for (int block = 0; block < rooms.count && block < worth.length; block++) {
-            if (worth[block] != NONE && dearerThan(block) == i) {
+            if (worth[block] != NONE && manyAhead(block, worth[block]) == i) {
                 return block;
             }
         }
@@ -815,10 +815,11 @@ public final class CutInMay {
 
     // ---- selling and telling
 
-    private int dearerThan(int block) {
+    /** How many blocks come ahead of one that is worth so much, the dearest first. */
+    private int manyAhead(int block, int pence) {
         int many = 0;
         for (int other = 0; other < rooms.count && other < worth.length; other++) {
-            if (worth[other] > worth[block] || worth[other] == worth[block] && other < block) {
+            if (worth[other] > pence || worth[other] == pence && other < block) {
                 many++;
             }
         }
